@@ -653,7 +653,7 @@ public final class ShortProofs {
 
         int firstPartOf(int clause) {
             for (int l = 0; l < count; l++) {
-                if (Clauses.isPart(clauses[l], clause)) {
+                if ((clauses[l] & ~clause) == 0) {
                     return l;
                 }
             }
