@@ -18,6 +18,7 @@ public final class AgainstSlowTest {
             DUE.same("text", Due.told(x, 0), text);
             compareProof(x, 0, Slow.of(text));
             compareMade(x, Slow.of(text), Slow.of(before));
+            compareHeap(text, before);
             if (k % 8 == 0) {
                 compareGrounds(x, Slow.of(text));
             }
@@ -124,6 +125,26 @@ public final class AgainstSlowTest {
         Set<Set<Character>> both = slow.clauses();
         both.retainAll(other.clauses());
         DUE.is(slow.told() + " and " + other.told() + ": shared", x.shared(0, 1), both.size());
+    }
+
+    /** A heap is longer than what a text can tell, and keeps what is idle; so do heaps of heaps. */
+    private static void compareHeap(String first, String second) {
+        Slow heap = Slow.heap(Slow.of(first), Slow.of(second));
+        if (heap == null) {
+            return;
+        }
+        ShortProofs x = Due.of(first, second);
+        compareProof(x, x.heap(0, 1), heap);
+        for (int way = 0; way < 5; way++) {
+            Slow made = heap.shorter(way);
+            int p = x.shorter(2, way);
+            DUE.same(heap.told() + ": shorter " + way, p < 0 ? "" + p : Due.told(x, p),
+                made == null ? "-3" : made.told());
+        }
+        Slow more = Slow.heap(heap, Slow.of(first));
+        int p = x.heap(2, 0);
+        DUE.same(heap.told() + " and " + first + ": heap", p < 0 ? "" + p : Due.told(x, p),
+            more == null ? "-3" : more.told());
     }
 
     private static void compareGrounds(ShortProofs x, Slow slow) {
