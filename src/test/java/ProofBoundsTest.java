@@ -18,6 +18,7 @@ public final class ProofBoundsTest {
         truly();
         fewest();
         twelveAndThirteen();
+        ordersInTurn();
         DUE.end();
     }
 
@@ -228,5 +229,24 @@ public final class ProofBoundsTest {
         }
         made.tells("UNKNOWN ahead of STATE", -1, x -> x.fewest(4, 12));
         made.tells("UNKNOWN ahead of STATE", -1, x -> x.fewest(4, -2));
+    }
+
+    /** Orders of long and short proofs in turn: none meets what another one left behind. */
+    private static void ordersInTurn() {
+        String[] texts = {
+            "gDe;gE;c0,1e;gAd;c3,2d;gab;gac;gBC;c5,4a;c6,4a;c9,7c;c8,10b", "ga;gA;c0,1a", "g",
+            "gAb;gBc;gCd;gD;ga;c4,0a;c5,1b;c6,2c;c7,3d", "gab;gaB;gAc;gAC;c0,1b;c2,3c;c4,5a",
+        };
+        int[][] due = {
+            {4, 0, 1, 2, 3, 4, 5, 6, 8, 9, 7, 10, 11}, {3, 0, 1, 2}, {1, 0}, {3, 0, 4, 5, 1, 6, 2, 7, 3, 8},
+            {4, 0, 1, 2, 4, 3, 5, 6},
+        };
+        ShortProofs x = Due.of(texts);
+        for (int turn = 0; turn < 10; turn++) {
+            int p = turn * 3 % 5;
+            for (int k = -1; k < 12; k++) {
+                DUE.is("fewest(" + p + ", " + k + ")", x.fewest(p, k), k + 1 < due[p].length ? due[p][k + 1] : -9);
+            }
+        }
     }
 }

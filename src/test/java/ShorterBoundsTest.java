@@ -16,6 +16,7 @@ public final class ShorterBoundsTest {
         stronger();
         cutOnce();
         units();
+        unitsByNoOtherWay();
         unitsCutLast();
         noClause();
         safe();
@@ -168,6 +169,22 @@ public final class ShorterBoundsTest {
         made(4, "ga;gAb;gAc;c0,1a;c0,2a;gd", "gd");
     }
 
+    /** The end has the other sign of a unit, and of a line that is none: by way 4 alone the unit is cut from it. */
+    private static void unitsByNoOtherWay() {
+        String end = "ga;gAb;c0,1a;gABc;c0,3a;c2,4b;gACd;c5,6c";
+        String right = "gA;gab;gaB;c1,0a;c2,0a;c3,4b";
+        for (int way = 0; way < 3; way++) {
+            made(way, end, end);
+            made(way, right, right);
+        }
+        made(3, end, "gAb;gABc;c0,1b;gACd;c2,3c");
+        made(3, right, right);
+        made(4, end, "ga;gAb;gABc;c1,2b;gACd;c3,4c;c0,5a");
+        made(4, right, "gA;gab;gaB;c1,2b;c3,0a");
+        String once = "ga;gAb;c0,1a;gABc;c2,3b";
+        made(4, once, once);
+    }
+
     /** "Behind all LINES: for each UNIT, the last one first: .. the CUT of that and of what stands for the UNIT." */
     private static void unitsCutLast() {
         // LEFT is the one with the letter: the unit with the letter, and with not
@@ -185,12 +202,25 @@ public final class ShorterBoundsTest {
             DUE.is("way " + way, Due.of(STATE_3).shorter(0, way), way == 3 ? -3 : 1);
             DUE.is("way " + way, Due.of(STATE_4).shorter(0, way), way == 4 ? -3 : 1);
         }
+        // "(STATE, if these make no CLAUSE)": what stands for unit b is Ab, what stands for the end is aB
+        Bounds last = new Bounds(DUE, () -> Due.of("ga;gAc;c0,1a;gACb;c0,3a;c2,4c;gBd;c5,6b;gaBD;c5,8b;c7,9d"));
+        last.tells("the cut of a unit", -3, x -> x.shorter(0, 4));
+        // with e for a in the end there is no clash, and both units are cut last
+        made(4, "ga;gAc;c0,1a;gACb;c0,3a;c2,4c;gBd;c5,6b;geBD;c5,8b;c7,9d",
+            "ga;gAc;gAbC;c1,2c;gBd;gBDe;c4,5d;c3,6b;c0,7a");
         // behind a refused one the same object makes others as if nothing had been
         ShortProofs x = Due.of(STATE_3, STATE_4);
         DUE.is("way 3", x.shorter(0, 3), -3);
         DUE.is("way 4", x.shorter(1, 4), -3);
         DUE.is("way 0", x.shorter(0, 0), 2);
         DUE.same("way 0", Due.told(x, 2), STATE_3);
+        DUE.is("way 4", x.shorter(1, 4), -3);
+        DUE.is("a text", Due.read(x, "gAb;gAB;ga;gA;c2,3a"), 3);
+        for (int way = 1; way < 3; way++) {
+            DUE.is("way " + way, x.shorter(3, way), 3 + way);
+            DUE.same("way " + way, Due.told(x, 3 + way), "ga;gA;c0,1a");
+            DUE.is("way 3", x.shorter(0, 3), -3);
+        }
     }
 
     /** "UNKNOWN"; "a LETTER may be in it both ways; all 4095 of one that is IDLE". */
@@ -291,6 +321,16 @@ public final class ShorterBoundsTest {
         DUE.is("24 other lines", y.size(5, 0), 24);
         DUE.is("48 lines", y.heap(4, 5), -3);
         DUE.is("48 lines", y.heap(5, 4), -3);
+        DUE.is("another end", Due.read(y, "ga"), 6);
+        DUE.is("15 and an end", y.heap(2, 6), 7);
+        DUE.is("15 and an end", y.size(7, 0), 16);
+        DUE.is("24, 15 more and an end of before: all behind it are let go", y.heap(4, 7), 8);
+        DUE.is("one line", y.size(8, 0), 1);
+        DUE.is("nine and an end", Due.read(y, "gdA;gdB;gdC;gdE;gdF;geA;geB;geC;gad"), 9);
+        DUE.is("23 other lines and an end of before", y.heap(2, 9), 10);
+        DUE.is("23 other lines and an end of before", y.size(10, 0), 24);
+        DUE.is("24, 23 more and an end of before", y.heap(4, 10), 11);
+        DUE.is("the sixteenth is the end", y.size(11, 0), 16);
     }
 
     /** "LINES behind what stands for the second one's END are let go; IDLE ones stay." */

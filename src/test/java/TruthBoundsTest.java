@@ -146,6 +146,28 @@ public final class TruthBoundsTest {
             middleIs(text, 2, ALL & ~without, ALL & ~with);
             middleIs(text, 3, 0, 0);
         }
+        // one letter is just in others, then just in the part, and another one is in both
+        for (int k = 0; k < 30; k++) {
+            String one = letters[k % 6];
+            int both = (k + 1 + k / 6) % 6;
+            String text = "g" + one + letters[both] + ";g" + letters[both].toUpperCase() + ";c0,1" + letters[both]
+                + ";g" + one.toUpperCase() + ";c2,3" + one;
+            long without = both < 5 ? tables[both] : 0;
+            long with = both < 5 ? tables[both] : ALL;
+            middleIs(text, 2, ALL & ~without, ALL & ~with);
+            middleIs(text, 5, without, with);
+            String mirrored = "g" + one.toUpperCase() + letters[both] + ";g" + letters[both].toUpperCase() + ";c0,1"
+                + letters[both] + ";g" + one + ";c3,2" + one;
+            middleIs(mirrored, 2, ALL & ~without, ALL & ~with);
+            middleIs(mirrored, 5, without, with);
+        }
+        // what one part left behind is not met by the next
+        ShortProofs x = Due.of("ga;gA;c0,1a");
+        long[] due = {ALL, 0xAAAAAAAAL, 0x55555555L, 0};
+        for (int k = 0; k < 12; k++) {
+            DUE.is("part " + 5 * k % 4, x.middle(0, 5 * k % 4, k / 4 % 2), due[5 * k % 4]);
+            DUE.is("part " + 3 * k % 4, x.middle(0, 3 * k % 4, k / 4 % 2), due[3 * k % 4]);
+        }
         // b is just in the part, then in both, then just in others
         String text = "gab;gB;c0,1b;gA;c2,3a";
         middleIs(text, 3, 0xAAAAAAAAL, 0xAAAAAAAAL);
@@ -317,6 +339,11 @@ public final class TruthBoundsTest {
         // six letters one behind the other, told backwards
         unitsAre("gEf;gDe;gCd;gBc;gAb;ga;gF", "", 1);
         unitsAre("gEf;gDe;gCd;gBc;gAb;ga", "f", 1);
+        unitsAre("gEF;gEf;gDe;gCd;gBc;gAb;ga", "", 1);
+        unitsAre("gEF;gEf;gDe;gCd;gBc;gAb", "", 0);
+        unitsAre("gEF;gDe;gCd;gBc;gAb;ga", "", 0);
+        unitsAre("gAb;gBc;gBC", "A", 1);
+        unitsAre("gBc;gBC", "A", 0);
         unitsAre("gEf;gDe;gCd;gBc;gAb", "Af", 1);
         unitsAre("gEf;gDe;gCd;gBc;gAb", "f", 0);
         unitsAre("gabcdef", "abcdef", 1);
