@@ -3,7 +3,8 @@ import java.util.Random;
 /** Calls by lot with near, far and foreign numbers: none throws, refused ones change nothing. */
 public final class AnyCallsTest {
     private static final Due DUE = new Due("AnyCallsTest");
-    private static final Random LOT = new Random(31);
+    private static final Lots LOTS = new Lots(31);
+    private static final Random LOT = LOTS.lot;
     private static final int[] FAR = {
         Integer.MIN_VALUE, Integer.MAX_VALUE, -1, -2, -100, 31, 32, 33, 63, 64, 4095, 4096, 1023, 1024, 60, 61
     };
@@ -13,7 +14,7 @@ public final class AnyCallsTest {
             ShortProofs x = new ShortProofs();
             for (int calls = 0; calls < 512;) {
                 if (LOT.nextInt(12) == 0) {
-                    String text = AgainstSlowTest.anyText(3 + LOT.nextInt(4));
+                    String text = LOTS.anyText(3 + LOT.nextInt(4));
                     Due.read(x, text);
                     calls += text.length() + 2;
                 } else {

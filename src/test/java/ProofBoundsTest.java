@@ -14,6 +14,7 @@ public final class ProofBoundsTest {
         size();
         leastAndMost();
         kept();
+        sizesInTurn();
         rests();
         truly();
         fewest();
@@ -161,6 +162,18 @@ public final class ProofBoundsTest {
         int[] due = {1, 1, 3, 3, 3, 4, 4, 3, 3};
         for (int k = 0; k < texts.length; k++) {
             DUE.is("kept of " + texts[k], Due.of(texts[k]).size(0, 4), due[k]);
+        }
+    }
+
+    /** Sizes of proofs of one object in turn: none meets what another one left behind. */
+    private static void sizesInTurn() {
+        // of the first proof line 0 is used last of all, of the others not at all
+        ShortProofs x = Due.of("ga;gb;gc;gd;gA;c0,4a", "ga;gb;gc;gd;ge;gf", "gf;gab;gA;c1,2a;gB;c3,4b", "g");
+        int[][] due = {{6, 5, 1, 1, 3, 5}, {6, 6, 1, 0, 1, 6}, {6, 6, 2, 2, 3, 4}, {1, 0, 0, 0, 1, 1}};
+        for (int turn = 0; turn < 12; turn++) {
+            int p = turn * turn % 7 % 4;
+            sizesAre(x, p, due[p]);
+            sizesAre(x, turn % 4, due[turn % 4]);
         }
     }
 

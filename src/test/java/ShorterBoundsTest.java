@@ -18,6 +18,8 @@ public final class ShorterBoundsTest {
         units();
         unitsByNoOtherWay();
         unitsCutLast();
+        unitsOfEachLetter();
+        unitsThatAreCutAhead();
         noClause();
         safe();
         twice();
@@ -196,6 +198,47 @@ public final class ShorterBoundsTest {
         made(4, "ga;gA;gAb;gaB;c0,2a;c3,1a;c4,5b;c0,1a", "ga;gA;c0,1a");
     }
 
+    /** A UNIT of each letter, both ways, that is a GROUND and that is a CUT. */
+    private static void unitsOfEachLetter() {
+        for (int k = 0; k < 6; k++) {
+            String u = String.valueOf((char) ('a' + k));
+            String v = String.valueOf((char) ('a' + (k + 1) % 6));
+            String w = String.valueOf((char) ('a' + (k + 2) % 6));
+            for (int way = 0; way < 2; way++) {
+                boolean plain = way == 0;
+                String sign = plain ? u : u.toUpperCase();
+                String other = plain ? u.toUpperCase() : u;
+                String ofOthers = "g" + ordered(other, v) + ";g" + ordered(other, v.toUpperCase());
+                String ground = "g" + sign + ";" + ofOthers;
+                made(4, ground + ";" + cut(0, 1, u, plain) + ";" + cut(0, 2, u, plain) + ";c3,4" + v,
+                    ground + ";c1,2" + v + ";" + cut(0, 3, u, plain));
+                String ofUnit = "g" + ordered(sign, w) + ";g" + ordered(sign, w.toUpperCase());
+                String byCut = ofUnit + ";c0,1" + w + ";" + ofOthers;
+                made(4, byCut + ";" + cut(2, 3, u, plain) + ";" + cut(2, 4, u, plain) + ";c5,6" + v,
+                    byCut + ";c3,4" + v + ";" + cut(2, 5, u, plain));
+            }
+        }
+    }
+
+    /** Two signs as Due tells them: the one of the lesser letter first. */
+    private static String ordered(String one, String two) {
+        return one.compareToIgnoreCase(two) < 0 ? one + two : two + one;
+    }
+
+    /** The cut of a unit and another line: the one with the letter is LEFT. */
+    private static String cut(int unit, int line, String letter, boolean unitIsLeft) {
+        return "c" + (unitIsLeft ? unit + "," + line : line + "," + unit) + letter;
+    }
+
+    /** "If what stands for the END has the other SIGN of its LETTER": where it has not, no CUT comes. */
+    private static void unitsThatAreCutAhead() {
+        made(4, "ga;gAb;c0,1a;gABc;c0,3a;c2,4b;gAC;c5,6c;gad;c8,7a", "gAb;gABc;c0,1b;gAC;c2,3c;gad;c5,4a");
+        made(4, "gA;gab;c1,0a;gaBc;c3,0a;c2,4b;gaC;c5,6c;gAd;c7,8a", "gab;gaBc;c0,1b;gaC;c2,3c;gAd;c4,5a");
+        // the end has the sign itself, not the other one
+        made(4, "ga;gAb;c0,1a;gABc;c0,3a;c2,4b;gAC;c5,6c;gad;c8,7a;gaD;c9,10d",
+            "gAb;gABc;c0,1b;gAC;c2,3c;gad;c5,4a;gaD;c6,7d");
+    }
+
     /** "(By ways 3 and 4 these may make no CLAUSE: STATE)"; by other ways they do. */
     private static void noClause() {
         for (int way = 0; way < 5; way++) {
@@ -239,6 +282,12 @@ public final class ShorterBoundsTest {
         DUE.is("a both ways", x.safe(0, 2), Due.clause("abcA"));
         DUE.is("the end", x.safe(0, 10), 0);
         DUE.is("an empty end's left", x.safe(0, 9), 1);
+        // "one that is LEFT here and RIGHT there counts each": line 0 is LEFT of line 3, RIGHT of line 4
+        ShortProofs y = Due.of("gaB;gA;gb;c0,1a;c2,0b;gAb;c4,5a;gbc;c7,3b;gBC;c6,9b;c8,10c");
+        String[] both = {"aB", "AcB", "abC", "cB", "abC", "AbC", "bC", "bc", "c", "BC", "C", ""};
+        for (int l = 0; l < both.length; l++) {
+            DUE.is("LEFT here and RIGHT there: line " + l, y.safe(0, l), Due.clause(both[l]));
+        }
     }
 
     /** "How many LINES of a PROOF have a CLAUSE that a LINE ahead has. UNKNOWN." */
@@ -331,6 +380,13 @@ public final class ShorterBoundsTest {
         DUE.is("23 other lines and an end of before", y.size(10, 0), 24);
         DUE.is("24, 23 more and an end of before", y.heap(4, 10), 11);
         DUE.is("the sixteenth is the end", y.size(11, 0), 16);
+        // cuts are lines like others
+        ShortProofs z = Due.of(SIXTEEN, "gbc;gbd;gbe;gbf;gcd;gce;gAef;gab;c7,6a",
+            "gbc;gbd;gbe;gbf;gcd;gce;gcf;gAef;gab;c8,7a");
+        DUE.is("23 grounds and a cut", z.heap(0, 1), 3);
+        DUE.is("23 grounds and a cut", z.size(3, 0), 24);
+        DUE.is("24 grounds and a cut", z.heap(0, 2), -3);
+        DUE.is("24 grounds and a cut", z.heap(2, 0), -3);
     }
 
     /** "LINES behind what stands for the second one's END are let go; IDLE ones stay." */

@@ -16,8 +16,10 @@ public final class TruthBoundsTest {
         cores();
         middleNumbers();
         middleTables();
+        middleOfTheLongest();
         truthsNumbers();
         truthsTables();
+        eachOfTheTruths();
         clauseNumbers();
         smallClauses();
         cutsNumbers();
@@ -181,6 +183,32 @@ public final class TruthBoundsTest {
         middleIs("gbc;gB;c0,1b;gC;gac;c2,3c", 10, 0xF3F3F3F3L, 0xF3F3F3F3L);
     }
 
+    /** "24 at most": the end of 24 lines is had by cuts of all parts of them. */
+    private static void middleOfTheLongest() {
+        ShortProofs x = Due.of("gAb;gBc;c0,1b;gCd;c2,3c;gDe;c4,5d;gEf;c6,7e", "gCd;gDe;c0,1d;gEf;c2,3e",
+            "ga;gAb;c0,1a;gBc;c2,3b;gCd;c4,5c;gDe;c6,7d;gEf;c8,9e",
+            "gF;gEf;c1,0f;gDe;c3,2e;gCd;c5,4d;gBc;c7,6c;gAb;c9,8b", "ga;gA;c0,1a");
+        int heap = 0;
+        for (int p = 1; p < 5; p++) {
+            heap = x.heap(heap, p);
+        }
+        DUE.is("lines", x.size(heap, 0), 24);
+        DUE.is("grounds", x.size(heap, 5), 7);
+        DUE.is("the end rests on the last cuts", x.rests(heap) >> 17, 127);
+        int ofA = 1 << 5;
+        for (int half = 0; half < 2; half++) {
+            DUE.is("nothing is the part", x.middle(heap, 0, half), ALL);
+            DUE.is("all are the part", x.middle(heap, 127, half), 0);
+            DUE.is("a is the part", x.middle(heap, ofA, half), 0xAAAAAAAAL);
+            DUE.is("all but a are the part", x.middle(heap, 127 - ofA, half), 0x55555555L);
+            // by b, then by c: what is between goes from letter to letter
+            DUE.is("a, Ab are the part", x.middle(heap, ofA + 1, half), 0xCCCCCCCCL);
+            DUE.is("a, Ab, Bc are the part", x.middle(heap, ofA + 3, half), 0xF0F0F0F0L);
+            DUE.is("F is the part", x.middle(heap, 64, half), half == 0 ? ALL : 0);
+        }
+        DUE.is("the first part that is refused", x.middle(heap, 128, 0), Due.LOST);
+    }
+
     /** "LOST: as middle(), with any END." */
     private static void truthsNumbers() {
         USUAL.range("truths of proof", 0, 1, Due.LOST, (x, p) -> x.truths(p, 0, 0));
@@ -215,6 +243,32 @@ public final class TruthBoundsTest {
         DUE.is("bit 0", x.truths(2, 2, 1), ALL - 1);
         DUE.is("the empty clause", x.truths(3, 1, 0), 0);
         DUE.is("the empty clause", x.truths(3, 0, 1), ALL);
+    }
+
+    /** "A table of 64 truths (bit m: with the LETTERS of set m true)": six grounds that leave just one of them. */
+    private static void eachOfTheTruths() {
+        for (int m = 0; m < 64; m++) {
+            StringBuilder text = new StringBuilder();
+            for (int letter = 0; letter < 6; letter++) {
+                int sign = (m >> letter & 1) != 0 ? 1 << letter : 64 << letter;
+                text.append(letter == 0 ? "g" : ";g").append(Due.signs(sign));
+            }
+            ShortProofs x = Due.of(text.toString(), text + ";g" + Due.signs((63 - m) | m << 6));
+            int isTrue = m | (63 - m) << 6;
+            DUE.is(text + ": truths", x.truths(0, 63, m / 32), 1L << m % 32);
+            DUE.is(text + ": truths of the other half", x.truths(0, 63, 1 - m / 32), 0);
+            DUE.is(text + ": no core", x.core(0, 0, 0), -9);
+            DUE.is(text + ": none is bare", x.core(0, 1, 0), 0);
+            DUE.is(text + ": all are none", x.core(0, 2, 63), 0);
+            DUE.is(text + ": what is true follows", x.follows(0, isTrue), 1);
+            DUE.is(text + ": what is not true does not", x.follows(0, (63 - m) | m << 6), 0);
+            DUE.is(text + ": by units, too", x.units(0, isTrue), 1);
+            // one more that is not true there: all seven are the one core
+            DUE.is(text + " and one more: core", x.core(1, 0, 0), 127);
+            DUE.is(text + " and one more: bare", x.core(1, 1, 0), 1);
+            DUE.is(text + " and one more: truths", x.truths(1, 127, m / 32), 0);
+            DUE.is(text + " and one more: all follow", x.follows(1, 0), 1);
+        }
     }
 
     private static boolean isClause(int number) {
@@ -406,7 +460,8 @@ public final class TruthBoundsTest {
             USUAL.tells("the wrong way round", -9, x -> x.cut(64 << letter, 1 << letter, letter));
             USUAL.tells("the left has it not", -9, x -> x.cut(0, 64 << letter, letter));
             USUAL.tells("the right has it not", -9, x -> x.cut(1 << letter, 0, letter));
-            USUAL.tells("all others of both", 63 - (1 << letter), x -> x.cut(63, 63 - (1 << letter) | 64 << letter, letter));
+            USUAL.tells("all others of both", 63 - (1 << letter),
+                x -> x.cut(63, 63 - (1 << letter) | 64 << letter, letter));
             int other = (letter + 1) % 6;
             USUAL.tells("another letter both ways", -9,
                 x -> x.cut(1 << letter | 1 << other, 64 << letter | 64 << other, letter));
